@@ -1,0 +1,66 @@
+/** Counts answers that are not as due; each test is its own program, so one count is enough. */
+final class Checks {
+  interface Call {
+    long answer();
+  }
+
+  interface Deed {
+    void go();
+  }
+
+  private static final int MOST_PRINTED = 40;
+
+  private static int wrong = 0;
+
+  private Checks() {
+  }
+
+  static void due(String call, long want, long got) {
+    if (got != want) {
+      report(call + " answered " + got + ", due is " + want);
+    }
+  }
+
+  static void due(String call, boolean want, boolean got) {
+    due(call, want ? 1 : 0, got ? 1 : 0);
+  }
+
+  static void dueThrow(String call, Class<? extends RuntimeException> want, Deed deed) {
+    try {
+      deed.go();
+    } catch (RuntimeException e) {
+      if (e.getClass() != want) {
+        report(call + " threw " + e + ", due is " + want.getName());
+      }
+      return;
+    }
+    report(call + " threw nothing, due is " + want.getName());
+  }
+
+  /** What a call answers as a text, its exception's name if it throws. */
+  static String told(Call call) {
+    try {
+      return Long.toString(call.answer());
+    } catch (RuntimeException e) {
+      return "throws." + e.getClass().getSimpleName();
+    }
+  }
+
+  static void report(String fault) {
+    wrong++;
+    if (wrong <= MOST_PRINTED) {
+      System.out.println(fault);
+    }
+  }
+
+  static boolean anyWrong() {
+    return wrong != 0;
+  }
+
+  static void end() {
+    System.out.println(wrong == 0 ? "all answers are as due" : wrong + " answers are not as due");
+    if (wrong != 0) {
+      System.exit(1);
+    }
+  }
+}
