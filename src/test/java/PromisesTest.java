@@ -35,7 +35,9 @@ public final class PromisesTest {
     noSuchName();
     noSuchTerm();
     limitOfBounds();
+    limitBelow();
     limitInWidenAndNarrow();
+    farContradictions();
     Checks.end();
   }
 
@@ -356,7 +358,11 @@ public final class PromisesTest {
     Checks.due("anything", ENDLESS, r.bound(0, 2, 0));
     Checks.due("anything", ENDLESS, r.bound(0, 1, -2));
     Checks.due("opposite", 0, r.bound(0, 2, -2));
+    Checks.due("opposite is not kept", ENDLESS, r.kept(0, 2, -2));
     Checks.due("kept", 4, r.told(1));
+    r.set(0, 1, 2, 1);
+    Checks.due("goes on", 1, r.bound(0, 1, -2));
+    Checks.due("goes on, turned", -1, r.bound(0, 2, -1));
     makeEmpty(r, 1);
     Checks.due("empty", 0, r.forget(1, 1));
     Checks.due("empty", 1, r.told(9));
@@ -506,6 +512,8 @@ public final class PromisesTest {
     Checks.due("nothing known", 0, r.array(0, 1, 2));
     r.row(0, -1, 0, 0);
     Checks.due("one side", 0, r.array(0, 1, 2));
+    r.row(0, 1, -2, 0);
+    Checks.due("at most the length", 0, r.array(0, 1, 2));
     r.row(0, 1, -2, -1);
     Checks.due("proved", 1, r.array(0, 1, 2));
     Checks.due("the other way round", -1, r.array(0, 2, 1));
@@ -618,6 +626,19 @@ public final class PromisesTest {
   private static LinearRows apart(int times) {
     LinearRows r = new LinearRows(3);
     r.set(0, 1, 2, 0);
+    growApart(r, times);
+    return r;
+  }
+
+  /** The same, but name 1 less name 2 may be more, too. */
+  private static LinearRows atLeastApart(int n, int times) {
+    LinearRows r = new LinearRows(n);
+    r.row(0, 2, -1, 0);
+    growApart(r, times);
+    return r;
+  }
+
+  private static void growApart(LinearRows r, int times) {
     for (int digit = 31 - Integer.numberOfLeadingZeros(times); digit >= 0; digit--) {
       moveToNextNames(r, 1, 0);
       r.meet(0, 0, 1);
@@ -628,7 +649,6 @@ public final class PromisesTest {
       }
     }
     r.all(1);
-    return r;
   }
 
   /** Shape t says of names 2 and 3 what shape s says of names 1 and 2. */
@@ -670,6 +690,43 @@ public final class PromisesTest {
     Checks.due("nothing changed", 1, q.told(4));
     Checks.due("joined", 1, q.join(4, 0, 1));
     Checks.due("needed", 4, q.needed(0));
+  }
+
+  private static void limitBelow() {
+    LinearRows r = atLeastApart(3, 1000000);
+    Checks.due("-10^15", -LIMIT, r.bound(0, 2, -1));
+    Checks.due("endless", ENDLESS, r.bound(0, 1, -2));
+    Checks.dueThrow("-10^15 - 1", ARITHMETIC, () -> r.set(0, 2, 2, -1));
+    Checks.dueThrow("-10^15 - 1", ARITHMETIC, () -> r.row(0, 1, 0, -1));
+    Checks.due("nothing changed", 1, r.told(1));
+    Checks.due("-10^15 of a name", 1, r.row(0, 1, 0, 0));
+    Checks.due("-10^15 of a name", -LIMIT, r.bound(0, 2, 0));
+    Checks.due("-2 * 10^15 of a name twice", -2 * LIMIT, r.bound(0, 2, 2));
+  }
+
+  /** Contradictions between far numbers in all names: numbers that are added up again and again would wrap. */
+  private static void farContradictions() {
+    for (int times = 250000; times <= 500000; times += 50000) {
+      LinearRows r = atLeastApart(5, times);
+      r.row(0, -2, 0, 0);
+      r.row(0, 2, 0, 0);
+      for (int name = 2; name <= 5; name++) {
+        r.set(0, name, 1, 0);
+      }
+      Checks.due("all far above 0", -2L * times * GIVEN, r.bound(0, -1, -5));
+      r.copy(1, 0);
+      for (int name = 1; name <= 5; name++) {
+        r.set(1, name, -name, 0);
+      }
+      Checks.due("all far below 0", -2L * times * GIVEN, r.bound(1, 2, 4));
+      Checks.due("never both", 0, r.meet(2, 0, 1));
+      Checks.due("narrowed", 1, r.narrow(3, 0, 0));
+      r.set(1, 3, -3, 0);
+      Checks.due("one is right, the others are not", 0, r.meet(4, 1, 0));
+      Checks.due("no index", -1, r.array(1, 1, 3));
+      Checks.due("no length", -1, r.array(1, 3, 2));
+      Checks.due("empty", 2, r.told(9));
+    }
   }
 
   private static void limitInWidenAndNarrow() {
