@@ -11,8 +11,14 @@ final class Checks {
   private static final int MOST_PRINTED = 40;
 
   private static int wrong = 0;
+  private static String sentence = "";
 
   private Checks() {
+  }
+
+  /** Which words of the document the checks from here on stand for: a fault is told with them. */
+  static void of(String words) {
+    sentence = "[" + words + "] ";
   }
 
   static void due(String call, long want, long got) {
@@ -49,7 +55,7 @@ final class Checks {
   static void report(String fault) {
     wrong++;
     if (wrong <= MOST_PRINTED) {
-      System.out.println(fault);
+      System.out.println(sentence + fault);
     }
   }
 

@@ -16,6 +16,7 @@ public final class PointsTest {
   private final List<int[]> box = new ArrayList<>();
   private LinearRows rows;
   private List<List<int[]>> shapes;
+  private final List<int[]> given = new ArrayList<>();
   private String told = "";
 
   private PointsTest(int n, int edge, long seed) {
@@ -45,6 +46,7 @@ public final class PointsTest {
   private void go(int runs, int mostC) {
     for (int run = 0; run < runs && !Checks.anyWrong(); run++) {
       rows = new LinearRows(n);
+      given.clear();
       shapes = new ArrayList<>();
       told = "points, n " + n + ", run " + run + ":";
       for (int s = 0; s < 2; s++) {
@@ -53,10 +55,22 @@ public final class PointsTest {
       }
       checkReads(0);
       checkReads(1);
+      rows = again();
       checkPairs();
+      rows = again();
       checkKeptOnly();
+      rows = again();
       checkChanges();
     }
+  }
+
+  /** A new object with the same rows, as no object is good for more than 512 calls. */
+  private LinearRows again() {
+    LinearRows r = new LinearRows(n);
+    for (int[] row : given) {
+      r.row(row[0], row[1], row[2], row[3]);
+    }
+    return r;
   }
 
   private int term() {
@@ -83,6 +97,7 @@ public final class PointsTest {
         continue;
       }
       points = below(points, a, b, c);
+      given.add(new int[] {s, a, b, c});
       told += " row(" + s + ", " + a + ", " + b + ", " + c + ")";
       Checks.due(told, points.isEmpty() ? 0 : 1, rows.row(s, a, b, c));
     }
