@@ -63,6 +63,19 @@ final class Checks {
     return wrong != 0;
   }
 
+  /** Each test of its own: one that breaks off is a fault, and the others go on. */
+  static void each(Deed... tests) {
+    for (Deed test : tests) {
+      sentence = "";
+      try {
+        test.go();
+      } catch (RuntimeException e) {
+        report("broke off with " + e + " at " + e.getStackTrace()[0]);
+      }
+    }
+    end();
+  }
+
   static void end() {
     System.out.println(wrong == 0 ? "all answers are as due" : wrong + " answers are not as due");
     if (wrong != 0) {

@@ -7,20 +7,20 @@ public final class LimitsTest {
   private static final int SPARE = 7;
 
   public static void main(String[] args) {
-    oneTerm();
-    termsOfTwoNames();
-    endlessIsNoLimit();
-    termTwiceHasNoLimit();
-    emptyHasNoLimit();
-    rowAbove();
-    rowBelow();
-    meetAboveAndBelow();
-    widenAboveAndBelow();
-    narrowAboveAndBelow();
-    setFromAnother();
-    otherCallsAtTheLimit();
-    fiveNamesAtTheLimit();
-    Checks.end();
+    Checks.each(
+        LimitsTest::oneTerm,
+        LimitsTest::termsOfTwoNames,
+        LimitsTest::endlessIsNoLimit,
+        LimitsTest::termTwiceHasNoLimit,
+        LimitsTest::emptyHasNoLimit,
+        LimitsTest::rowAbove,
+        LimitsTest::rowBelow,
+        LimitsTest::meetAboveAndBelow,
+        LimitsTest::widenAboveAndBelow,
+        LimitsTest::narrowAboveAndBelow,
+        LimitsTest::setFromAnother,
+        LimitsTest::otherCallsAtTheLimit,
+        LimitsTest::fiveNamesAtTheLimit);
   }
 
   /** A name of the term, changed so that the term is by 1 more, or less. */

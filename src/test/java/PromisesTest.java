@@ -9,36 +9,36 @@ public final class PromisesTest {
   private static final int[] NO_SHAPES = {-1, 8, Integer.MIN_VALUE, Integer.MAX_VALUE};
 
   public static void main(String[] args) {
-    promise1NewObject();
-    promise2All();
-    promise3Row();
-    promise3RowThrows();
-    promise4Bound();
-    promise5Kept();
-    promise6Meet();
-    promise7Join();
-    promise8Widen();
-    promise9Narrow();
-    promise10Copy();
-    promise11Set();
-    promise11SetThrows();
-    promise12Forget();
-    promise13Within();
-    promise14Put15Point();
-    promise16Has();
-    promise17Sample();
-    promise18Needed19Needs();
-    promise20Fits();
-    promise21Array();
-    promise22Told();
-    noSuchShape();
-    noSuchName();
-    noSuchTerm();
-    limitOfBounds();
-    limitBelow();
-    limitInWidenAndNarrow();
-    farContradictions();
-    Checks.end();
+    Checks.each(
+        PromisesTest::promise1NewObject,
+        PromisesTest::promise2All,
+        PromisesTest::promise3Row,
+        PromisesTest::promise3RowThrows,
+        PromisesTest::promise4Bound,
+        PromisesTest::promise5Kept,
+        PromisesTest::promise6Meet,
+        PromisesTest::promise7Join,
+        PromisesTest::promise8Widen,
+        PromisesTest::promise9Narrow,
+        PromisesTest::promise10Copy,
+        PromisesTest::promise11Set,
+        PromisesTest::promise11SetThrows,
+        PromisesTest::promise12Forget,
+        PromisesTest::promise13Within,
+        PromisesTest::promise14Put15Point,
+        PromisesTest::promise16Has,
+        PromisesTest::promise17Sample,
+        PromisesTest::promise18Needed19Needs,
+        PromisesTest::promise20Fits,
+        PromisesTest::promise21Array,
+        PromisesTest::promise22Told,
+        PromisesTest::noSuchShape,
+        PromisesTest::noSuchName,
+        PromisesTest::noSuchTerm,
+        PromisesTest::limitOfBounds,
+        PromisesTest::limitBelow,
+        PromisesTest::limitInWidenAndNarrow,
+        PromisesTest::farContradictions);
   }
 
   private static LinearRows box(int n, long least, long most) {

@@ -7,7 +7,7 @@ public final class RefusedCallsTest {
     long on(LinearRows r);
   }
 
-  private record Refused(String name, Class<? extends RuntimeException> want, Use use) {
+  private record Refused(String words, String name, Class<? extends RuntimeException> want, Use use) {
   }
 
   private static final long GIVEN = 1000000000L;
@@ -29,6 +29,7 @@ public final class RefusedCallsTest {
   private static final long[] NOT_GIVEN = {GIVEN + 1, -GIVEN - 1, Long.MAX_VALUE, Long.MIN_VALUE};
 
   private final List<Refused> refused = new ArrayList<>();
+  private String words = "";
 
   public static void main(String[] args) {
     RefusedCallsTest test = new RefusedCallsTest();
@@ -46,7 +47,7 @@ public final class RefusedCallsTest {
   }
 
   private void add(String name, Class<? extends RuntimeException> want, Use use) {
-    refused.add(new Refused(name, want, use));
+    refused.add(new Refused(words, name, want, use));
   }
 
   /** The state before each refused call: shapes of each kind, a point, and rows that needed() told. */
@@ -81,6 +82,7 @@ public final class RefusedCallsTest {
   }
 
   private void noSuchShape() {
+    words = "Terms: IndexOutOfBoundsException: there is no such SHAPE";
     for (int s : NO_SHAPES) {
       for (int t : new int[] {NOT_CLOSED, EMPTY, ALL}) {
         add("row", INDEX, r -> r.row(s, 1, 0, 0));
@@ -119,6 +121,7 @@ public final class RefusedCallsTest {
   }
 
   private void noSuchName() {
+    words = "Terms: IndexOutOfBoundsException: there is no such NAME";
     for (int name : NO_NAMES) {
       for (int s : new int[] {NOT_CLOSED, EMPTY, ALL}) {
         add("set", INDEX, r -> r.set(s, name, 1, 0));
@@ -136,6 +139,7 @@ public final class RefusedCallsTest {
   }
 
   private void noSuchTerm() {
+    words = "Terms: IndexOutOfBoundsException: there is no such TERM";
     for (int term : NO_TERMS) {
       for (int s : new int[] {NOT_CLOSED, EMPTY, ALL}) {
         add("row", INDEX, r -> r.row(s, term, 1, 0));
@@ -155,6 +159,7 @@ public final class RefusedCallsTest {
   }
 
   private void noSuchPart() {
+    words = "Promises 19, 22: IndexOutOfBoundsException: there is none such, or another what";
     for (int bad : new int[] {-1, 10, 11, Integer.MIN_VALUE, Integer.MAX_VALUE}) {
       add("told", INDEX, r -> r.told(bad));
       add("needs", INDEX, r -> r.needs(bad, 0));
@@ -166,6 +171,7 @@ public final class RefusedCallsTest {
   }
 
   private void notGiven() {
+    words = "Promises 3, 11, 14, 20: IllegalArgumentException";
     for (long c : NOT_GIVEN) {
       for (int s : new int[] {NOT_CLOSED, EMPTY, ALL}) {
         add("row", ARGUMENT, r -> r.row(s, 1, 0, c));
@@ -184,6 +190,7 @@ public final class RefusedCallsTest {
   }
 
   private void tooFar() {
+    words = "Promises 3, 6, 8, 9, 11: ArithmeticException";
     add("row", ARITHMETIC, r -> r.row(FAR_APART, 2, 0, 1));
     add("row", ARITHMETIC, r -> r.row(FAR_APART, 2, 3, 1));
     add("row of a term twice", ARITHMETIC, r -> r.row(FAR_APART, 2, 2, 2));
@@ -201,6 +208,7 @@ public final class RefusedCallsTest {
   }
 
   private void indexBeforeArgument() {
+    words = "Terms: The one named first when several would do";
     for (long c : NOT_GIVEN) {
       add("row, shape and c", INDEX, r -> r.row(8, 1, 0, c));
       add("row, first term and c", INDEX, r -> r.row(NOT_CLOSED, 4, 0, c));
@@ -216,6 +224,7 @@ public final class RefusedCallsTest {
   }
 
   private void indexBeforeArithmetic() {
+    words = "Terms: The one named first when several would do";
     add("row", INDEX, r -> r.row(FAR_APART, 2, 4, 1));
     add("set", INDEX, r -> r.set(FAR_APART, 1, 4, 1));
     add("set", INDEX, r -> r.set(FAR_APART, -1, 1, 1));
@@ -227,6 +236,7 @@ public final class RefusedCallsTest {
   }
 
   private void argumentBeforeArithmetic() {
+    words = "Terms: The one named first when several would do";
     for (long c : NOT_GIVEN) {
       add("row", ARGUMENT, r -> r.row(FAR_APART, 2, 0, c));
       add("set", ARGUMENT, r -> r.set(FAR_APART, 1, 1, c));
@@ -241,7 +251,7 @@ public final class RefusedCallsTest {
       want.add(read(state(), part));
     }
     for (Refused call : refused) {
-      Checks.of("Terms: which exception, the one named first when several would do");
+      Checks.of(call.words);
       Checks.dueThrow(call.name, call.want, () -> call.use.on(state()));
       Checks.of("Terms: A call that throws changes nothing");
       for (int part = 0; part <= 8; part++) {

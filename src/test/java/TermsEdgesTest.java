@@ -5,39 +5,40 @@ public final class TermsEdgesTest {
   private static final Class<IndexOutOfBoundsException> INDEX = IndexOutOfBoundsException.class;
 
   public static void main(String[] args) {
-    names();
-    terms();
-    wholeNumbersOfAnySize();
-    rowIsAtMost();
-    shapesAtFirstAllPoints();
-    emptyHasNoPoint();
-    boundIsMetByAPoint();
-    boundIsEndless();
-    keptRowWithTheLeastC();
-    keptRowsInNoOrder();
-    keptRowsInFull();
-    keptRowOfATermTwice();
-    oppositesAndNoneAreNotKept();
-    oppositesAndNoneBelowZeroMakeEmpty();
-    meetKeepsAllBounds();
-    joinKeepsAllBounds();
-    setKeepsAllBounds();
-    forgetKeepsAllBounds();
-    copyKeepsThoseOfTheOther();
-    emptyHasNoKeptRows();
-    joinHasWhatEachRowAllows();
-    widenedLeavesRowsThatHold();
-    widenedOfEmpty();
-    widenedByEmpty();
-    narrowedFillsEndlessBounds();
-    narrowedOfEmpty();
-    narrowedByEmpty();
-    neededRowsInOrder();
-    neededRowsLeaveOutFromTheLast();
-    neededRowOfEmpty();
-    pointAtFirst();
-    noSuchShapeNameTerm();
-    Checks.end();
+    Checks.each(
+        TermsEdgesTest::names,
+        TermsEdgesTest::terms,
+        TermsEdgesTest::wholeNumbersOfAnySize,
+        TermsEdgesTest::rowIsAtMost,
+        TermsEdgesTest::shapesAtFirstAllPoints,
+        TermsEdgesTest::emptyHasNoPoint,
+        TermsEdgesTest::emptyByARing,
+        TermsEdgesTest::boundIsMetByAPoint,
+        TermsEdgesTest::boundIsEndless,
+        TermsEdgesTest::keptRowWithTheLeastC,
+        TermsEdgesTest::keptRowsInNoOrder,
+        TermsEdgesTest::keptRowsInFull,
+        TermsEdgesTest::keptRowOfATermTwice,
+        TermsEdgesTest::oppositesAndNoneAreNotKept,
+        TermsEdgesTest::oppositesAndNoneBelowZeroMakeEmpty,
+        TermsEdgesTest::meetKeepsAllBounds,
+        TermsEdgesTest::joinKeepsAllBounds,
+        TermsEdgesTest::setKeepsAllBounds,
+        TermsEdgesTest::forgetKeepsAllBounds,
+        TermsEdgesTest::copyKeepsThoseOfTheOther,
+        TermsEdgesTest::emptyHasNoKeptRows,
+        TermsEdgesTest::joinHasWhatEachRowAllows,
+        TermsEdgesTest::widenedLeavesRowsThatHold,
+        TermsEdgesTest::widenedOfEmpty,
+        TermsEdgesTest::widenedByEmpty,
+        TermsEdgesTest::narrowedFillsEndlessBounds,
+        TermsEdgesTest::narrowedOfEmpty,
+        TermsEdgesTest::narrowedByEmpty,
+        TermsEdgesTest::neededRowsInOrder,
+        TermsEdgesTest::neededRowsLeaveOutFromTheLast,
+        TermsEdgesTest::neededRowOfEmpty,
+        TermsEdgesTest::pointAtFirst,
+        TermsEdgesTest::noSuchShapeNameTerm);
   }
 
   static void makeEmpty(LinearRows r, int s) {
@@ -184,6 +185,26 @@ public final class TermsEdgesTest {
     r.row(3, 2, -3, 0);
     Checks.due("1, 2, 3 are the same, and two of them 1", 0, r.row(3, -2, 3, 0));
     Checks.due("empty", 3, r.told(9));
+  }
+
+  private static void emptyByARing() {
+    Checks.of("Terms: EMPTY: there is none (rows in a ring that are together below 0)");
+    for (int n = 2; n <= 5; n++) {
+      for (int last = 1; last <= n; last++) {
+        LinearRows r = new LinearRows(n);
+        long together = 0;
+        for (int k = 0; k < n - 1; k++) {
+          int name = (last + k) % n + 1;
+          long c = k % 2 == 0 ? 7 : -9;
+          r.row(0, name, -(name % n + 1), c);
+          together += c;
+        }
+        int next = last % n + 1;
+        Checks.due("together 0", 1, r.row(0, last, -next, -together));
+        Checks.due("the ring backwards", together, r.bound(0, next, -last));
+        Checks.due("together -1", 0, r.row(0, last, -next, -together - 1));
+      }
+    }
   }
 
   private static void boundIsMetByAPoint() {
@@ -446,6 +467,9 @@ public final class TermsEdgesTest {
     r.row(2, 2, 0, -7);
     Checks.due("a row comes too late", 0, r.told(3));
     Checks.due("a row comes too late", ENDLESS, r.kept(2, 2, 0));
+    r.row(2, 1, -2, 5);
+    r.row(2, 1, 1, 5);
+    Checks.due("rows of two terms, and of one twice, come too late", 0, r.told(3));
     r.meet(3, 3, 1);
     Checks.due("by meet", 0, r.told(4));
     r.join(4, 1, 2);
@@ -520,6 +544,11 @@ public final class TermsEdgesTest {
     Checks.due("of all points", 0, r.told(5));
     r.widen(5, 0, 0);
     Checks.due("by itself", 4, r.told(6));
+    r.row(6, 1, 0, 1);
+    r.row(6, 2, 0, 1);
+    r.widen(6, 6, 6);
+    Checks.due("no row that follows from others", 2, r.told(7));
+    Checks.due("though it has a bound", 2, r.bound(6, 1, 2));
   }
 
   private static void widenedOfEmpty() {
@@ -635,6 +664,7 @@ public final class TermsEdgesTest {
   private static void neededRowsLeaveOutFromTheLast() {
     Checks.of("Terms: NEEDED ROWS: from the last to the first each that holds for all POINTS of those left is left out");
     LinearRows r = full(2, 10, 20);
+    Checks.due("two together by 1 less do not follow", 8, full(2, 10, 19).needed(0));
     Checks.due("two together just follow", 4, r.needed(0));
     isRow(r, 0, 1, 0, 10);
     isRow(r, 3, -2, 0, 10);
@@ -655,6 +685,14 @@ public final class TermsEdgesTest {
     Checks.due("one point", 4, r.needed(3));
     isRow(r, 1, -1, 0, 4);
     isRow(r, 2, 2, 0, 4);
+    LinearRows three = new LinearRows(3);
+    three.set(0, 2, 1, 0);
+    three.set(0, 3, 1, 0);
+    Checks.due("all three are the same: 2 and 3 are left out", 4, three.needed(0));
+    isRow(three, 0, 1, -2, 0);
+    isRow(three, 1, 1, -3, 0);
+    isRow(three, 2, -1, 2, 0);
+    isRow(three, 3, -1, 3, 0);
   }
 
   private static void neededRowOfEmpty() {
