@@ -2,6 +2,7 @@ import java.lang.reflect.Constructor;
 import java.lang.reflect.Field;
 import java.lang.reflect.Method;
 import java.lang.reflect.Modifier;
+import java.util.Arrays;
 import java.util.Set;
 import java.util.TreeSet;
 
@@ -36,6 +37,14 @@ public final class FaceTest {
   };
 
   public static void main(String[] args) {
+    methods();
+    fields();
+    constructors();
+    classes();
+    Checks.end();
+  }
+
+  private static void methods() {
     Set<String> want = new TreeSet<>(Set.of(METHODS));
     Set<String> got = new TreeSet<>();
     Set<String> faceNames = new TreeSet<>();
@@ -46,6 +55,8 @@ public final class FaceTest {
       } else {
         got.add(written(m));
         faceNames.add(m.getName());
+        Checks.due("public " + m.getName(), true, Modifier.isPublic(m.getModifiers()));
+        Checks.due("static " + m.getName(), false, Modifier.isStatic(m.getModifiers()));
       }
     }
     if (!want.equals(got)) {
@@ -55,10 +66,6 @@ public final class FaceTest {
     if (!hiddenNames.isEmpty()) {
       Checks.report("private methods with names of the face: " + hiddenNames);
     }
-    fieldsAndConstructors();
-    Checks.due("ENDLESS", 1L << 62, LinearRows.ENDLESS);
-    Checks.due("final class", true, Modifier.isFinal(LinearRows.class.getModifiers()));
-    Checks.end();
   }
 
   private static String written(Method m) {
@@ -73,21 +80,42 @@ public final class FaceTest {
     return text.toString();
   }
 
-  private static void fieldsAndConstructors() {
+  private static void fields() {
     int seen = 0;
     for (Field f : LinearRows.class.getDeclaredFields()) {
       if (!Modifier.isPrivate(f.getModifiers())) {
         seen++;
         Checks.due("only ENDLESS is seen, not " + f.getName(), true, f.getName().equals("ENDLESS"));
+        Checks.due("public " + f.getName(), true, Modifier.isPublic(f.getModifiers()));
+        Checks.due("static " + f.getName(), true, Modifier.isStatic(f.getModifiers()));
       }
       if (Modifier.isStatic(f.getModifiers())) {
         Checks.due("final static " + f.getName(), true, Modifier.isFinal(f.getModifiers()));
       }
     }
     Checks.due("constants", 1, seen);
-    Constructor<?>[] all = LinearRows.class.getDeclaredConstructors();
-    Checks.due("constructors", 1, all.length);
-    Checks.due("public constructor", true, Modifier.isPublic(all[0].getModifiers()));
-    Checks.due("constructor's parameters", 1, all[0].getParameterCount());
+    Checks.due("ENDLESS", 1L << 62, LinearRows.ENDLESS);
+  }
+
+  private static void constructors() {
+    int seen = 0;
+    for (Constructor<?> c : LinearRows.class.getDeclaredConstructors()) {
+      if (!Modifier.isPrivate(c.getModifiers())) {
+        seen++;
+        Checks.due("public constructor", true, Modifier.isPublic(c.getModifiers()));
+        Checks.due("constructor of an int", true, Arrays.equals(c.getParameterTypes(), new Class<?>[] {int.class}));
+        Checks.due("constructor's exceptions", 0, c.getExceptionTypes().length);
+      }
+    }
+    Checks.due("constructors", 1, seen);
+  }
+
+  private static void classes() {
+    Checks.due("public class", true, Modifier.isPublic(LinearRows.class.getModifiers()));
+    Checks.due("final class", true, Modifier.isFinal(LinearRows.class.getModifiers()));
+    for (Class<?> inside : LinearRows.class.getDeclaredClasses()) {
+      int seen = inside.getModifiers() & (Modifier.PUBLIC | Modifier.PROTECTED);
+      Checks.due("class inside that is seen outside: " + inside.getName(), 0, seen);
+    }
   }
 }

@@ -1,8 +1,13 @@
+import java.util.Set;
+
 /** An object is used for at most 512 calls: the last one of them is answered as the first one. */
 public final class LastCallTest {
   private static final int CALLS = 512;
   private static final int KINDS = 21;
   private static final long GIVEN = 1000000000L;
+  private static final Set<String> THROWN_BY_CODE = Set.of("IllegalStateException", "IllegalArgumentException",
+      "IndexOutOfBoundsException", "ArithmeticException", "UnsupportedOperationException", "NoSuchElementException",
+      "RuntimeException");
 
   public static void main(String[] args) {
     Checks.of("What it is: An object is used for at most 512 calls after it has been made");
@@ -115,14 +120,13 @@ public final class LastCallTest {
     Checks.due("10^9 added in each call", 510 * GIVEN, r.bound(0, 1, 0));
   }
 
-  /** What they answer is free, but they answer, or throw what their promise names. */
+  /** What they answer is free, a throw too; but they end, and the machine itself throws in no state. */
   private static void laterCallsEnd() {
     LinearRows r = ready();
     for (int k = 0; k < 20 * CALLS; k++) {
       int kind = k % KINDS;
       String told = Checks.told(() -> call(r, kind));
-      if (told.startsWith("throws.") && !told.equals("throws.IndexOutOfBoundsException")
-          && !told.equals("throws.IllegalArgumentException") && !told.equals("throws.ArithmeticException")) {
+      if (told.startsWith("throws.") && !THROWN_BY_CODE.contains(told.substring("throws.".length()))) {
         Checks.report("a later call of kind " + kind + " " + told);
       }
     }

@@ -20,6 +20,8 @@ public final class PromisesEdgesTest {
         PromisesEdgesTest::widenAnswersZeroWhenEmpty,
         PromisesEdgesTest::narrowAnswersZeroWhenEmpty,
         PromisesEdgesTest::outcomeMayBeOneOfThoseRead,
+        PromisesEdgesTest::outcomeIsOfThoseReadAlone,
+        PromisesEdgesTest::outcomeIsTheSameSet,
         PromisesEdgesTest::copyWithKeptRows,
         PromisesEdgesTest::setChangesEachPoint,
         PromisesEdgesTest::setAnswersZeroWhenEmpty,
@@ -81,9 +83,11 @@ public final class PromisesEdgesTest {
       r.copy(s, 0);
       r.all(s);
       Checks.due("of one with all rows", true, r.within(6, s));
+      Checks.due("of one with all rows, and no others", true, r.within(s, 6));
       makeEmpty(r, s);
       r.all(s);
       Checks.due("of an empty one", true, r.within(6, s));
+      Checks.due("of an empty one, and no others", true, r.within(s, 6));
       Checks.due("none is empty", 0, r.told(9));
       Checks.due("opposite terms", 0, r.bound(s, -3, 3));
       r.all(s);
@@ -299,6 +303,63 @@ public final class PromisesEdgesTest {
     }
   }
 
+  /** After a call that made another shape: nothing of that one may come into this one. */
+  private static void outcomeIsOfThoseReadAlone() {
+    Checks.of("Promises 3, 6 to 9, 11, 12: 0 when it is EMPTY, also behind a call that was about another SHAPE");
+    LinearRows r = new LinearRows(2);
+    makeEmpty(r, 0);
+    Checks.Call[] calls = {
+      () -> r.row(0, 1, 0, 5), () -> r.meet(0, 0, 2), () -> r.meet(0, 2, 0), () -> r.join(0, 0, 0),
+      () -> r.widen(0, 0, 0), () -> r.narrow(0, 0, 2), () -> r.narrow(0, 2, 0), () -> r.set(0, 1, 0, 5),
+      () -> r.set(0, 1, 1, 1), () -> r.forget(0, 1)
+    };
+    for (int k = 0; k < calls.length; k++) {
+      Checks.due("another one", 1, r.row(1, 1, 0, 100 - k));
+      Checks.due("call " + k, 0, calls[k].answer());
+      Checks.due("empty after call " + k, -ENDLESS, r.bound(0, 1, 0));
+      Checks.due("kept after call " + k, 0, r.told(1));
+      Checks.due("the other one after call " + k, 100 - k, r.bound(1, 1, 0));
+    }
+    Checks.due("empty ones", 1, r.told(9));
+  }
+
+  /** The same set of points by other calls: each is within the other. */
+  private static void outcomeIsTheSameSet() {
+    Checks.of("Promises 3, 6 to 12: SHAPE t becomes ..: these POINTS and no others");
+    LinearRows r = new LinearRows(3);
+    r.row(0, 1, 2, 5);
+    r.row(0, -1, 0, 4);
+    r.copy(1, 0);
+    same(r, "copy", 0, 1);
+    r.meet(2, 0, 7);
+    same(r, "meet with all points", 0, 2);
+    r.join(2, 0, 0);
+    same(r, "join with itself", 0, 2);
+    r.widen(2, 0, 0);
+    same(r, "widened by itself", 0, 2);
+    r.narrow(2, 7, 0);
+    same(r, "all points narrowed", 0, 2);
+    r.set(2, 3, 1, 6);
+    r.forget(2, 3);
+    same(r, "a name that is set and forgotten", 0, 2);
+    r.set(2, 2, -2, 1);
+    r.set(2, 2, -2, 1);
+    same(r, "turned twice", 0, 2);
+    r.all(2);
+    r.row(2, -1, 0, 4);
+    r.row(2, 1, 2, 5);
+    same(r, "the rows in another order", 0, 2);
+    r.widen(2, 0, 7);
+    same(r, "widened by all points", 7, 2);
+    r.join(2, 0, 7);
+    same(r, "joined with all points", 7, 2);
+  }
+
+  private static void same(LinearRows r, String how, int s, int u) {
+    Checks.due(how + ": no point less", true, r.within(s, u));
+    Checks.due(how + ": no point more", true, r.within(u, s));
+  }
+
   private static void copyWithKeptRows() {
     Checks.of("Promise 10: SHAPE t becomes s, with its KEPT ROWS");
     LinearRows r = four();
@@ -389,6 +450,7 @@ public final class PromisesEdgesTest {
     exactly(one, 0, 1, 3);
     Checks.due("the only name", 1, one.forget(0, 1));
     Checks.due("all points", true, one.within(1, 0));
+    Checks.due("all points, and no others", true, one.within(0, 1));
   }
 
   private static void forgetAnswersZeroWhenEmpty() {
@@ -729,6 +791,12 @@ public final class PromisesEdgesTest {
     r.row(3, 2, -1, 1);
     Checks.due("below by 1 at most", 0, r.array(3, 1, 2));
     Checks.due("no kept row came", 1, r.told(4));
+    LinearRows three = new LinearRows(3);
+    three.row(0, -2, -1, 0);
+    three.row(0, 2, -3, -1);
+    Checks.due("0 or above with another name alone", 0, three.array(0, 2, 3));
+    three.row(0, 1, 0, 0);
+    Checks.due("0 or above by another name", 1, three.array(0, 2, 3));
   }
 
   private static void arrayOfEmpty() {
